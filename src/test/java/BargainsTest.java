@@ -172,7 +172,8 @@ public final class BargainsTest {
         A.due("no bargain", y.pay(-1, 1), -1);
         A.due("0 coins", y.pay(0, 0), -1);
         A.due("-1 coins", y.pay(0, -1), -1);
-        A.due("some", y.pay(0, 20), 20);
+        A.due("one", y.pay(0, 1), 1);
+        A.due("some", y.pay(0, 19), 19);
         A.due("owed", y.bargain(0, 4), 60);
         y.leave(0);
         A.due("as far as the purse goes, to one who left", y.pay(0, Integer.MAX_VALUE), 30);
@@ -251,7 +252,8 @@ public final class BargainsTest {
         A.due("0 coins", y.claim(0, 0, 0), -1);
         A.due("an empty purse", y.claim(0, 0, 5), 0);
         y.deal(1, 0, 1, 1, 40, 0, 0);
-        A.due("some", y.claim(0, 1, 5), 5);
+        A.due("one", y.claim(0, 1, 1), 1);
+        A.due("some", y.claim(0, 1, 4), 4);
         A.due("the rest of it", y.claim(0, 1, 100), 25);
         A.due("paid", y.claim(0, 1, 1), -1);
         A.due("purse", y.men(3, 2), 50);

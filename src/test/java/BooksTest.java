@@ -81,6 +81,17 @@ public final class BooksTest {
         A.due("days", y.joined(-2), 3);
         A.due("k -3", y.joined(-3), -1);
         A.due("widest", y.join(1000, 1000), 1);
+        A.due("coins of the latest", y.joined(-1), 4);
+        A.due("days of the latest", y.joined(-2), 3);
+        y.clear();
+        y.entry(0, 10, 1, 100);
+        y.entry(0, 10, 0, 100);
+        y.entry(1, 10, 0, 104);
+        A.due("of one man alone", y.join(4, 0), 1);
+        A.due("not the other's", y.joined(0), -1);
+        A.due("his", y.joined(1), 0);
+        A.due("no pair any more", y.join(3, 0), 0);
+        A.due("no coins", y.joined(-1), 0);
     }
 
     private static void joinBest() {
@@ -161,6 +172,10 @@ public final class BooksTest {
         y.clear();
         A.due("they went", y.joined(-1), -1);
         A.due("they went", y.joined(-2), -1);
+        y.entry(0, 0, 1, 1);
+        y.join(0, 0);
+        y.clear();
+        A.due("one went", y.joined(-1), -1);
         y.join(5, 5);
         y.clear();
         A.due("none went", y.joined(-1), 0);

@@ -23,6 +23,8 @@ public final class EldersTest {
         A.no("town 8", y.order(2, 0x80, 1));
         A.no("town 15", y.order(1, 0xf, 1));
         A.no("alike", y.order(3, 0x121, 1));
+        A.no("alike", y.order(2, 0x00, 1));
+        A.no("alike", y.order(8, 0x72543217, 1));
         A.due("as it was", y.elder(5), 0);
         A.yes("400 days", y.order(1, 0, 400));
         A.due("none of town 0", y.elder(5), -1);

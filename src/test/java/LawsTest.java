@@ -27,6 +27,7 @@ public final class LawsTest {
         A.due("bytes", y.count(9), 400);
         A.due("end(401)", y.end(401), -1);
         A.due("end(-1)", y.end(-1), -1);
+        A.due("all that it has", y.end(400), 400);
         A.due("bytes", y.count(9), 400);
         A.due("end(381)", y.end(381), 381);
         A.due("401 bytes", y.feed(0, 0, 0, 0, 0), -1);

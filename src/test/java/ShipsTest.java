@@ -125,6 +125,15 @@ public final class ShipsTest {
         A.due("lows first, then highs", y.plan(0), 150);
         planned(y, "best", 210, 0, 0, 1, 1);
         A.due("ships", y.planned(-1, 1), 2);
+        y.news(2, 0, 7, 8);
+        A.due("alike lows, a later way with a greater high", y.plan(0), 150);
+        planned(y, "greater high", 220, 0, 1, 1, 1);
+        y.news(1, 0, 7, 9);
+        A.due("alike lows, an earlier high", y.plan(0), 150);
+        planned(y, "earlier high", 230, 0, 0, 1, 1);
+        y.news(8, 0, 7, 10);
+        A.due("alike lows, the greatest high here", y.plan(0), 150);
+        planned(y, "highest here", 240, 0, -1, 1, 1);
         y.news(8, 0, 8, 8);
         A.due("here is best", y.plan(0), 160);
         planned(y, "here", 220, 0, -1, 1, 1);
@@ -244,8 +253,13 @@ public final class ShipsTest {
         A.due("breaks it", y.sail(1, 1), 1);
         A.due("he broke one", y.broke(1), 1);
         A.due("another port", y.sail(1, 0), 0);
+        y.shut(3, 15, 15);
+        y.man(5, false, 0);
+        A.due("the first ship, in good faith", y.sail(2, 0), 2);
+        y.man(5, false, 0);
+        y.readShut(1);
+        A.due("the first ship, breaks it", y.sail(3, 0), 1);
         y.clock(5);
-        y.man(2, false, 0);
         A.due("on its day", y.sail(2, 1), 1);
         y.ship(4, 6, 9, 1);
         y.ship(4, 6, 10, 1);
@@ -257,7 +271,6 @@ public final class ShipsTest {
         A.due("one told", y.sail(0, 3), 2);
         A.due("once", y.broke(0), 1);
         y.clock(6);
-        y.man(3, false, 0);
         A.due("it has left", y.sail(3, 1), -1);
         y.leave(2);
         A.due("he left", y.sail(2, 2), -1);
@@ -266,7 +279,7 @@ public final class ShipsTest {
         A.due("no man", y.broke(-1), -1);
         y.ship(4, 3999, 99, 1);
         y.shut(4, 0, 3999);
-        y.readShut(2);
+        y.readShut(3);
         A.due("coming behind all days", y.sail(3, 4), 0);
         for (int k = 5; k < 20; k++) {
             y.ship(1, 7, 1, 1);
