@@ -1522,11 +1522,18 @@ public final class MerchantYard {
                 return fail(FAULT_COUNT);
             }
             counted++;
-            if (opens) {
+            if (!opens) {
+                emit(token == TOKEN_NUMBER ? numbers[at] : -1 - token);
                 goOn();
-                return readSum(depth + 1) && pass(TOKEN_CLOSE_SUM);
+                return true;
             }
-            emit(token == TOKEN_NUMBER ? numbers[at] : -1 - token);
+            goOn();
+            if (!readSum(depth + 1)) {
+                return false;
+            }
+            if (tokens[at] != TOKEN_CLOSE_SUM) {
+                return fail(FAULT_STRANGE);
+            }
             goOn();
             return true;
         }
@@ -1660,14 +1667,21 @@ public final class MerchantYard {
 
         /** The first weighing that quarrels with one told ahead of it; NONE without a quarrel. */
         int greaterQuarreller(int kind, int day) {
+            int lower = NONE;
+            int upper = NONE;
             for (int k = 0; k < count; k++) {
-                if (lesserQuarreller(kind, day, k) != NONE) {
-                    return k;
+                if (isKnown(k, kind, day)) {
+                    if (lower != NONE && (liesAbove(lower, k) || liesAbove(k, upper))) {
+                        return k;
+                    }
+                    lower = lower == NONE || lowerExceeds(k, lower) ? k : lower;
+                    upper = upper == NONE || upperExceeds(upper, k) ? k : upper;
                 }
             }
             return NONE;
         }
 
+        /** The first weighing that quarrels with this one; NONE without such. */
         int lesserQuarreller(int kind, int day, int greater) {
             if (!isWeighing(greater) || !isKnown(greater, kind, day)) {
                 return NONE;
@@ -2032,6 +2046,8 @@ public final class MerchantYard {
         int coinsApart;
         int daysApart;
         boolean paired;
+        /** The worth of the pair of entry i of ours and j of home's at i * MOST_ENTRIES + j; 0: no pair. */
+        final int[] pairs;
         /** Row i, column m: the best worth of ours from i on when the set m of home's is taken. */
         int[] worths;
 
@@ -2041,6 +2057,7 @@ public final class MerchantYard {
             men = new int[2][MOST_ENTRIES];
             coins = new int[2][MOST_ENTRIES];
             partners = new int[MOST_ENTRIES];
+            pairs = new int[MOST_ENTRIES * MOST_ENTRIES];
         }
 
         int add(int book, int day, int man, int amount) {
@@ -2067,68 +2084,85 @@ public final class MerchantYard {
         }
 
         int findPairs(int coinsWithin, int daysWithin) {
+            int rows = counts[OURS];
             int columns = 1 << counts[HOME];
             if (worths == null) {
                 worths = new int[(MOST_ENTRIES + 1) << MOST_ENTRIES];
             }
+            weighPairs(coinsWithin, daysWithin);
             for (int taken = 0; taken < columns; taken++) {
-                worths[counts[OURS] * columns + taken] = 0;
+                worths[rows * columns + taken] = 0;
             }
-            for (int i = counts[OURS] - 1; i >= 0; i--) {
+            for (int i = rows - 1; i >= 0; i--) {
                 for (int taken = 0; taken < columns; taken++) {
+                    // ours ahead of i can't have taken more of home's than they are
                     if (Integer.bitCount(taken) <= i) {
-                        worths[i * columns + taken] = bestWorth(i, taken, columns, coinsWithin, daysWithin);
+                        worths[i * columns + taken] = bestWorth(i, taken, columns);
                     }
                 }
             }
-            return keepFirstBest(columns, coinsWithin, daysWithin);
+            return keepFirstBest(columns);
         }
 
-        private int bestWorth(int i, int taken, int columns, int coinsWithin, int daysWithin) {
+        private void weighPairs(int coinsWithin, int daysWithin) {
+            for (int i = 0; i < counts[OURS]; i++) {
+                for (int j = 0; j < counts[HOME]; j++) {
+                    int coinsOff = coinsBetween(i, j);
+                    int daysOff = daysBetween(i, j);
+                    boolean pair = men[OURS][i] == men[HOME][j] && coinsOff <= coinsWithin && daysOff <= daysWithin;
+                    pairs[i * MOST_ENTRIES + j] = pair ? (ABOVE_SUMS - coinsOff) * ABOVE_SUMS - daysOff : 0;
+                }
+            }
+        }
+
+        private int coinsBetween(int i, int j) {
+            return Math.abs(coins[OURS][i] - coins[HOME][j]);
+        }
+
+        private int daysBetween(int i, int j) {
+            return Math.abs(days[OURS][i] - days[HOME][j]);
+        }
+
+        private int bestWorth(int i, int taken, int columns) {
             int next = (i + 1) * columns;
             int most = worths[next + taken];
             for (int j = 0; j < counts[HOME]; j++) {
-                if ((taken >> j & 1) == 0) {
-                    int worth = pairWorth(i, j, coinsWithin, daysWithin);
-                    if (worth > 0) {
-                        most = Math.max(most, worth + worths[next + (taken | 1 << j)]);
-                    }
+                int worth = pairs[i * MOST_ENTRIES + j];
+                if (worth > 0 && (taken >> j & 1) == 0) {
+                    most = Math.max(most, worth + worths[next + (taken | 1 << j)]);
                 }
             }
             return most;
         }
 
-        /** 0 if these two are no pair. */
-        private int pairWorth(int i, int j, int coinsWithin, int daysWithin) {
-            int coinsOff = Math.abs(coins[OURS][i] - coins[HOME][j]);
-            int daysOff = Math.abs(days[OURS][i] - days[HOME][j]);
-            if (men[OURS][i] != men[HOME][j] || coinsOff > coinsWithin || daysOff > daysWithin) {
-                return 0;
-            }
-            return (ABOVE_SUMS - coinsOff) * ABOVE_SUMS - daysOff;
-        }
-
-        private int keepFirstBest(int columns, int coinsWithin, int daysWithin) {
+        private int keepFirstBest(int columns) {
             int taken = 0;
             coinsApart = 0;
             daysApart = 0;
             for (int i = 0; i < counts[OURS]; i++) {
-                int goal = worths[i * columns + taken];
-                partners[i] = NONE;
-                for (int j = 0; j < counts[HOME] && partners[i] == NONE; j++) {
-                    int worth = (taken >> j & 1) != 0 ? 0 : pairWorth(i, j, coinsWithin, daysWithin);
-                    if (worth > 0 && worth + worths[(i + 1) * columns + (taken | 1 << j)] == goal) {
-                        partners[i] = j;
-                    }
-                }
-                if (partners[i] != NONE) {
-                    taken |= 1 << partners[i];
-                    coinsApart += Math.abs(coins[OURS][i] - coins[HOME][partners[i]]);
-                    daysApart += Math.abs(days[OURS][i] - days[HOME][partners[i]]);
+                int partner = firstPartner(i, taken, columns);
+                partners[i] = partner;
+                if (partner != NONE) {
+                    taken |= 1 << partner;
+                    coinsApart += coinsBetween(i, partner);
+                    daysApart += daysBetween(i, partner);
                 }
             }
             paired = true;
             return Integer.bitCount(taken);
+        }
+
+        /** The least of home's with which entry i still comes to the best worth. */
+        private int firstPartner(int i, int taken, int columns) {
+            int next = (i + 1) * columns;
+            int goal = worths[i * columns + taken];
+            for (int j = 0; j < counts[HOME]; j++) {
+                int worth = pairs[i * MOST_ENTRIES + j];
+                if (worth > 0 && (taken >> j & 1) == 0 && worth + worths[next + (taken | 1 << j)] == goal) {
+                    return j;
+                }
+            }
+            return NONE;
         }
     }
 }

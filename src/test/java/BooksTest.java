@@ -107,6 +107,16 @@ public final class BooksTest {
         A.due("wider", y.join(10, 0), 2);
         A.due("both ways cost 6, the first is due", y.joined(0), 0);
         y.clear();
+        for (int k = 0; k < 10; k++) {
+            y.entry(0, 0, 0, 1000 * k);
+            y.entry(1, 0, 0, 1000 * k + 1000);
+        }
+        A.due("ten pairs far apart ahead of nine alike", y.join(1000, 0), 10);
+        A.due("coins", y.joined(-1), 10000);
+        A.due("nine alike", y.join(999, 0), 9);
+        A.due("no coins", y.joined(-1), 0);
+        A.due("the first has none", y.joined(0), -1);
+        y.clear();
         y.entry(0, 5, 0, 10);
         y.entry(1, 9, 0, 10);
         y.entry(1, 5, 0, 11);

@@ -6,6 +6,7 @@ public final class LawsTest {
         tape();
         faults();
         faultsOfLimits();
+        lawsLeaveNothing();
         lawNumbers();
         readAndForce();
         ranks();
@@ -62,6 +63,10 @@ public final class LawsTest {
         fault("let   ", 6, 0);
         fault("lets if 1=1", 0, 0);
         fault("let if", 6, 0);
+        fault("letz if 1=1", 0, 0);
+        fault("zlet if 1=1", 0, 0);
+        fault("het if 1=1", 0, 0);
+        fault("let of 1=1", 4, 0);
         fault("let 5 if 1=1", 4, 0);
         fault("fine if 1=1", 5, 0);
         fault("fine 123456 if 1=1", 5, 1);
@@ -146,6 +151,25 @@ public final class LawsTest {
         fine(wide);
         fault(Answers.times(" ", 399) + "x", 399, 0);
         fault(Answers.times(" ", 400), 400, 0);
+    }
+
+    /** Bytes behind the tape's end, and laws told before, leave nothing behind. */
+    private static void lawsLeaveNothing() {
+        MerchantYard y = twoMen();
+        Answers.write(y, "bar if 1=12345");
+        y.end(10);
+        A.due("a number cut short", y.law(0, 0), 0);
+        A.due("is 1", y.verdict(0, 1, 0, 1, 0, 0, 0), 1);
+        Answers.write(y, "bar if 9 = kinds");
+        y.end(15);
+        A.due("a word cut short", y.law(0, 0), 1);
+        for (int k = 2; k < 30; k++) {
+            String sum = Answers.times("1 + ", 30 + k);
+            A.due("a long law", Answers.law(y, 0, 0, "fine " + k + " if " + sum + "0 = " + (30 + k) + "; bar if 1 = 1"), k);
+            A.due("is true", y.verdict(0, 1, 0, 1, 0, 0, 0), 10 + k);
+            A.due("a fault behind it", Answers.law(y, 0, 0, "bar if 1 = 1; let if 1 + 2"), k < 29 ? Answers.fault(26, 0) : -1);
+        }
+        A.due("the last law stands", y.verdict(0, 1, 0, 1, 0, 0, 0), 39);
     }
 
     private static void lawNumbers() {

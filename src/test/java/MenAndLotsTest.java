@@ -138,6 +138,7 @@ public final class MenAndLotsTest {
         }
         A.due("men(0, -1)", y.men(0, -1), -1);
         y.man(8, false, 500);
+        A.due("no winterer", y.men(1, 5), 0);
         y.bring(0, 0, 10);
         y.deal(0, 1, 0, 1, 100, 5, 0);
         y.deal(0, 1, 0, 1, 30, 6, 0);
