@@ -1397,10 +1397,10 @@ public final class MerchantYard {
             if (verb == TOKEN_FINE && !readFine()) {
                 return false;
             }
-            starts[clauseCount] = codeLength;
             if (!pass(TOKEN_IF) || !readTest(0)) {
                 return false;
             }
+            // the first clause starts at 0, where the row is never changed
             clauseCount++;
             starts[clauseCount] = codeLength;
             return true;

@@ -212,6 +212,8 @@ public final class BargainsTest {
         A.due("owes", y.men(1, 3), 90);
         A.due("late", y.men(1, 4), 90);
         A.due("called again", y.call(0), -1);
+        A.due("no fourth surety's claim", y.claim(0, 3, 1), -1);
+        A.due("no fourth surety", y.sureties(0, 3, 0), -1);
         y.deal(0, 1, 0, 1, 10, 0, 0);
         A.due("a bargain without credit", y.call(1), -1);
     }

@@ -25,6 +25,10 @@ public final class MeasuresTest {
             A.due("weighing " + k, y.weigh(k % 8, 50, 50), k);
         }
         A.due("a 101st", y.weigh(0, 2, 1), -1);
+        A.due("lower end of all", y.span(2, 0, 0), 49);
+        A.due("upper end of all", y.span(2, 0, 2), 51);
+        A.due("no quarrel of all", y.span(2, 0, 5), -1);
+        A.no("none such", y.takeBack(100));
         y.takeBack(0);
         A.due("a 101st behind one taken back", y.weigh(0, 2, 1), -1);
         A.due("count", y.count(5), 100);

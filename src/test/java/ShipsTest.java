@@ -284,6 +284,9 @@ public final class ShipsTest {
         for (int k = 5; k < 20; k++) {
             y.ship(1, 7, 1, 1);
         }
+        for (int k = 4; k < 20; k++) {
+            y.shut(1, 3000, 3000);
+        }
         A.due("the last ship", y.sail(3, 19), 0);
         A.due("the last ship again", y.sail(3, 19), -1);
     }
