@@ -164,7 +164,7 @@ public final class LawsTest {
         y.end(15);
         A.due("a word cut short", y.law(0, 0), 1);
         for (int k = 2; k < 30; k++) {
-            String sum = Answers.times("1 + ", 30 + k);
+            String sum = Answers.times("1+", 30 + k);
             A.due("a long law", Answers.law(y, 0, 0, "fine " + k + " if " + sum + "0 = " + (30 + k) + "; bar if 1 = 1"), k);
             A.due("is true", y.verdict(0, 1, 0, 1, 0, 0, 0), 10 + k);
             A.due("a fault behind it", Answers.law(y, 0, 0, "bar if 1 = 1; let if 1 + 2"), k < 29 ? Answers.fault(26, 0) : -1);
