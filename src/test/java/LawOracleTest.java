@@ -99,7 +99,7 @@ public final class LawOracleTest {
 
     // ---- random texts
 
-    private static String randomLaw(Random random) {
+    static String randomLaw(Random random) {
         StringBuilder text = new StringBuilder();
         int clauses = random.nextInt(20) == 0 ? 11 : 1 + random.nextInt(3);
         for (int i = 0; i < clauses; i++) {
@@ -156,7 +156,7 @@ public final class LawOracleTest {
         return random.nextInt(3) == 0 ? "" : " ".repeat(random.nextInt(3));
     }
 
-    private static String broken(String text, Random random) {
+    static String broken(String text, Random random) {
         String one = text;
         for (int i = random.nextInt(2); i >= 0; i--) {
             int from = random.nextInt(one.length() + 1);
